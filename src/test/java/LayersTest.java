@@ -1,0 +1,150 @@
+/** Promises 11 to 18. */
+public final class LayersTest {
+    public static void main(String[] args) {
+        folding();
+        crossing();
+        lowestCrossedCrease();
+        unfolding();
+        layersAndSections();
+        canFold();
+        completions();
+        Check.end();
+    }
+
+    private static String pile(FoldedArchive x) {
+        return Check.line(x, x.writePile());
+    }
+
+    private static void foldAll(FoldedArchive x, int... layers) {
+        for (int layer : layers) {
+            x.fold(layer);
+        }
+    }
+
+    private static void folding() {
+        FoldedArchive x = new FoldedArchive();
+        Check.denied("11: no sections", x, () -> x.fold(0), 2, 0);
+        Check.index("11: layer before denial", () -> x.fold(1));
+        FoldedArchive y = Check.strip(3);
+        Check.index("11: below", () -> y.fold(-1));
+        Check.index("11: above an empty pile", () -> y.fold(1));
+        Check.due("11: first", () -> y.fold(0), 1);
+        Check.due("11: below it", () -> y.fold(0), 2);
+        Check.due("11: moves the others up", () -> pile(y), "10");
+        Check.index("11: above the pile", () -> y.fold(3));
+        Check.due("11: on top", () -> y.fold(2), 3);
+        Check.due("11: pile", () -> pile(y), "102");
+        Check.denied("11: all folded", y, () -> y.fold(0), 2, 3);
+        Check.index("11: layer before all folded", () -> y.fold(4));
+        Check.due("13: three", () -> y.foldedCount(), 3);
+    }
+
+    // Pile 0 1 with crease 0 on the right; sections 2 and 3 bring creases 1 (left) and 2 (right).
+    private static void crossing() {
+        FoldedArchive x = Check.strip(4);
+        foldAll(x, 0, 1, 1);
+        Check.due("11: different sides don't cross", () -> pile(x), "021");
+        Check.denied("11: ends outside", x, () -> x.fold(0), 4, 0);
+        Check.denied("11: ends outside above", x, () -> x.fold(3), 4, 0);
+        Check.due("11: denied folds nothing", () -> pile(x), "021");
+        Check.due("16: inside below", () -> x.canFold(1), true);
+        Check.due("16: inside above", () -> x.canFold(2), true);
+        Check.due("11: inside", () -> x.fold(1), 4);
+        Check.due("11: spans inside one another", () -> pile(x), "0321");
+    }
+
+    // Section 6 brings crease 5 on the left, where creases 1 and 3 are; both are crossed at once.
+    private static void lowestCrossedCrease() {
+        FoldedArchive x = Check.strip(7);
+        foldAll(x, 0, 1, 2, 2, 2, 3);
+        Check.due("11: pile of six", () -> pile(x), "014532");
+        Check.denied("11: the lowest of two", x, () -> x.fold(0), 4, 1);
+        Check.denied("11: the higher one alone", x, () -> x.fold(5), 4, 3);
+        Check.due("11: no crossing", () -> x.fold(4), 7);
+        FoldedArchive y = Check.strip(7);
+        foldAll(y, 0, 0, 0, 1, 1, 2);
+        Check.due("11: pile of six, upside down", () -> pile(y), "245310");
+    }
+
+    private static void unfolding() {
+        FoldedArchive x = Check.strip(4);
+        Check.denied("12: nothing folded", x, () -> x.unfold(), 3, 4);
+        foldAll(x, 0, 1, 1, 2);
+        Check.due("12: its layer", () -> x.unfold(), 2);
+        Check.due("12: the others stay", () -> pile(x), "021");
+        Check.due("12: the next one", () -> x.unfold(), 1);
+        Check.due("12: those above move down", () -> x.layerOf(1), 1);
+        Check.due("13: two", () -> x.foldedCount(), 2);
+        Check.due("12: on top", () -> x.unfold(), 1);
+        Check.due("12: the last", () -> x.unfold(), 0);
+        Check.denied("12: nothing left", x, () -> x.unfold(), 3, 4);
+        FoldedArchive y = new FoldedArchive();
+        Check.denied("12: no sections", y, () -> y.unfold(), 3, 0);
+    }
+
+    private static void layersAndSections() {
+        FoldedArchive x = Check.strip(4);
+        foldAll(x, 0, 1, 1);
+        int[] layers = {0, 2, 1};
+        for (int section = 0; section < 3; section++) {
+            int asked = section;
+            Check.due("14: " + section, () -> x.layerOf(asked), layers[asked]);
+            Check.due("15: " + section, () -> x.sectionIn(layers[asked]), asked);
+        }
+        Check.missing("14: not folded", () -> x.layerOf(3));
+        Check.index("14: no such section", () -> x.layerOf(4));
+        Check.index("14: below", () -> x.layerOf(-1));
+        Check.index("15: above the pile", () -> x.sectionIn(3));
+        Check.index("15: below", () -> x.sectionIn(-1));
+        Check.index("15: no pile", () -> Check.strip(2).sectionIn(0));
+    }
+
+    private static void canFold() {
+        FoldedArchive x = Check.strip(4);
+        Check.due("16: first", () -> x.canFold(0), true);
+        Check.index("16: above", () -> x.canFold(1));
+        Check.index("16: below", () -> x.canFold(-1));
+        foldAll(x, 0, 1, 1);
+        Check.due("16: would cross", () -> x.canFold(0), false);
+        Check.due("16: would cross above", () -> x.canFold(3), false);
+        Check.due("16: changes nothing", () -> x.foldedCount(), 3);
+        x.fold(2);
+        Check.due("16: all folded", () -> x.canFold(0), false);
+        Check.due("16: all folded, top", () -> x.canFold(4), false);
+        Check.index("16: above all", () -> x.canFold(5));
+        Check.missing("16: is no denial", () -> x.denial());
+        Check.due("16: no sections", () -> new FoldedArchive().canFold(0), false);
+    }
+
+    private static void completions() {
+        int[] foldings = {1, 1, 2, 6, 16, 50, 144, 462};
+        for (int sections = 0; sections < foldings.length; sections++) {
+            FoldedArchive x = Check.strip(sections);
+            Check.due("17: strip of " + sections, () -> x.completions(), foldings[sections]);
+            Check.due("18: strip of " + sections, () -> x.completionsByOrders(), foldings[sections]);
+        }
+        FoldedArchive x = Check.strip(7);
+        foldAll(x, 0);
+        Check.due("17: the first alone rules nothing out", () -> x.completions(), 462);
+        Check.due("18: the first alone rules nothing out", () -> x.completionsByOrders(), 462);
+        x.fold(1);
+        Check.due("17: half of them", () -> x.completions(), 231);
+        Check.due("18: half of them", () -> x.completionsByOrders(), 231);
+        Check.due("17: folds nothing", () -> x.foldedCount(), 2);
+        foldAll(x, 2, 2, 2, 3);
+        Check.due("17: sections before the last", () -> x.completions(), waysFor(x));
+        Check.due("18: sections before the last", () -> x.completionsByOrders(), waysFor(x));
+        x.fold(4);
+        Check.due("17: all folded", () -> x.completions(), 1);
+        Check.due("18: all folded", () -> x.completionsByOrders(), 1);
+        Check.due("17: is no change", () -> x.undoCount(), 8);
+    }
+
+    private static int waysFor(FoldedArchive x) {
+        int ways = 0;
+        for (int layer = 0; layer <= x.foldedCount(); layer++) {
+            ways += x.canFold(layer) ? 1 : 0;
+        }
+        return ways;
+    }
+}
