@@ -8,6 +8,7 @@ public final class LayersTest {
         layersAndSections();
         canFold();
         completions();
+        completionsOfPiles();
         Check.end();
     }
 
@@ -138,6 +139,79 @@ public final class LayersTest {
         Check.due("17: all folded", () -> x.completions(), 1);
         Check.due("18: all folded", () -> x.completionsByOrders(), 1);
         Check.due("17: is no change", () -> x.undoCount(), 8);
+    }
+
+    // By hand: after 0 2 1, section 3 goes next to 2 on either side, for crease 0 spans from the bottom to the top.
+    private static void completionsOfPiles() {
+        FoldedArchive x = Check.strip(4);
+        foldAll(x, 0, 1, 1);
+        completed("021 of 4", x, 2);
+        FoldedArchive y = Check.strip(4);
+        foldAll(y, 0, 0, 0);
+        completed("210 of 4", y, 3);
+        FoldedArchive z = Check.strip(5);
+        foldAll(z, 0, 1, 1, 1);
+        completed("0321 of 5", z, 4);
+        FoldedArchive deep = Check.strip(7);
+        foldAll(deep, 0, 1, 1, 1);
+        completed("0321 of 7", deep, new Brute(7, "0321").count());
+        FoldedArchive other = Check.strip(7);
+        foldAll(other, 0, 1, 2);
+        completed("012 of 7", other, new Brute(7, "012").count());
+        FoldedArchive third = Check.strip(7);
+        foldAll(third, 0, 0, 1);
+        completed("120 of 7", third, new Brute(7, "120").count());
+    }
+
+    private static void completed(String told, FoldedArchive x, int due) {
+        Check.due("18: " + told, () -> x.completionsByOrders(), due);
+        Check.due("17: " + told, () -> x.completions(), due);
+        Check.due("18: " + told + " once more", () -> x.completionsByOrders(), due);
+    }
+
+    /** Tries each permutation whole, written as text. */
+    private static final class Brute {
+        private final int total;
+        private final String pile;
+
+        Brute(int total, String pile) {
+            this.total = total;
+            this.pile = pile;
+        }
+
+        int count() {
+            return count("");
+        }
+
+        private int count(String order) {
+            if (order.length() == total) {
+                return order.replaceAll("[^" + pile + "]", "").equals(pile) && !crossed(order) ? 1 : 0;
+            }
+            int found = 0;
+            for (char section = '0'; section < '0' + total; section++) {
+                found += order.indexOf(section) < 0 ? count(order + section) : 0;
+            }
+            return found;
+        }
+
+        private static boolean crossed(String order) {
+            for (int crease = 0; crease + 1 < order.length(); crease++) {
+                for (int other = crease % 2; other + 1 < order.length(); other += 2) {
+                    int[] span = span(order, crease);
+                    int[] next = span(order, other);
+                    if (span[0] < next[0] && next[0] < span[1] && span[1] < next[1]) {
+                        return true;
+                    }
+                }
+            }
+            return false;
+        }
+
+        private static int[] span(String order, int crease) {
+            int from = order.indexOf('0' + crease);
+            int to = order.indexOf('1' + crease);
+            return new int[] {Math.min(from, to), Math.max(from, to)};
+        }
     }
 
     private static int waysFor(FoldedArchive x) {

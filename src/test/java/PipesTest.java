@@ -7,6 +7,9 @@ public final class PipesTest {
         reading();
         flows();
         flowsAroundTheEnds();
+        takingBack(1, 2, 3, 4, 5);
+        takingBack(5, 4, 3, 2, 1);
+        takingBack(3, 5, 1, 4, 2);
         losses();
         Check.end();
     }
@@ -124,7 +127,6 @@ public final class PipesTest {
         Check.due("28: is no change", () -> x.undoCount(), 8);
     }
 
-    // Along 0 1 2 3 first, so that the second way has to take the pipe from 1 to 2 back.
     private static void flowsAroundTheEnds() {
         FoldedArchive x = Check.strip(4);
         x.layPipe(0, 1, 10);
@@ -152,6 +154,22 @@ public final class PipesTest {
         y.layPipe(3, 4, 7);
         y.layPipe(4, 5, 7);
         flow("six sections", y, 13);
+    }
+
+    // The way 0 a b 6 is a shortest one, but the greatest flow doesn't use the pipe from a to b.
+    private static void takingBack(int a, int b, int c, int d, int e) {
+        FoldedArchive x = Check.strip(7);
+        x.layPipe(0, a, 1);
+        x.layPipe(a, b, 1);
+        x.layPipe(b, 6, 1);
+        flow("a shortest way", x, 1);
+        x.layPipe(0, c, 1);
+        x.layPipe(c, d, 1);
+        x.layPipe(d, b, 1);
+        flow("a second way to b", x, 1);
+        x.layPipe(a, e, 1);
+        x.layPipe(e, 6, 1);
+        flow("a way that takes a pipe back", x, 2);
     }
 
     private static void losses() {
