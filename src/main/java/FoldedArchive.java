@@ -750,7 +750,10 @@ public final class FoldedArchive {
             System.arraycopy(other.starts, 0, starts, 0, PIPE_LIMIT);
             System.arraycopy(other.ends, 0, ends, 0, PIPE_LIMIT);
             System.arraycopy(other.widths, 0, widths, 0, PIPE_LIMIT);
-            System.arraycopy(other.broken, 0, broken, 0, PIPE_LIMIT);
+            // By a loop, for the language has arraycopy for numbers alone.
+            for (int pipe = 0; pipe < PIPE_LIMIT; pipe++) {
+                broken[pipe] = other.broken[pipe];
+            }
         }
 
         boolean has(int pipe) {

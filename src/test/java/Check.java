@@ -4,6 +4,7 @@ import java.util.NoSuchElementException;
 final class Check {
     private static int wrong = 0;
     private static int made = 0;
+    private static String about = "";
 
     private Check() {
     }
@@ -21,12 +22,25 @@ final class Check {
         }
     }
 
+    /** What the following checks are about is printed ahead of each wrong answer. */
+    static void about(String sentence) {
+        about = sentence;
+    }
+
+    static int madeSoFar() {
+        return made;
+    }
+
+    static void wrong(String told) {
+        wrong++;
+        System.out.println(told);
+    }
+
     static void due(String told, Call call, Object want) {
         made++;
         String got = answerOf(call);
         if (!got.equals(String.valueOf(want))) {
-            wrong++;
-            System.out.println(told + ": answered " + got + ", due is " + want);
+            wrong(about + told + ": answered " + got + ", due is " + want);
         }
     }
 
