@@ -26,12 +26,11 @@ final class SectionSentences extends Sentences {
             for (int call = 8; call <= 512; call++) {
                 Check.due("call " + call, () -> y.completions(), 462);
             }
-            FoldedArchive z = Check.strip(7);
-            for (int call = 8; call <= 510; call += 2) {
-                z.fold(0);
-                z.undo();
+            FoldedArchive z = Check.strip(1);
+            for (int call = 2; call <= 511; call++) {
+                Check.answerOf(call % 2 == 0 ? () -> z.fold(0) : () -> z.unfold());
             }
-            Check.due("call 512", () -> z.undoCount(), 7);
+            Check.due("call 512", () -> z.undoCount(), 8);
         });
         terms("The map is a strip of at most 7 sections", () -> {
             FoldedArchive x = new FoldedArchive();
