@@ -1127,11 +1127,16 @@ public final class FoldedArchive {
             int found = 0;
             for (int layer = 0; layer <= folded; layer++) {
                 if (trial.creaseCrossedAt(layer) == NONE) {
-                    trial.insert(layer);
-                    found += foldRest(folded + 1, total);
-                    trial.removeLast();
+                    found += foldInto(layer, folded, total);
                 }
             }
+            return found;
+        }
+
+        private int foldInto(int layer, int folded, int total) {
+            trial.insert(layer);
+            int found = foldRest(folded + 1, total);
+            trial.removeLast();
             return found;
         }
 
@@ -1152,14 +1157,17 @@ public final class FoldedArchive {
             for (int section = 0; section < total && section < SECTION_LIMIT; section++) {
                 if (placed[section] == total && isNextOfPile(section, total)) {
                     placed[section] = layer;
-                    // An order that crosses already is given up here: whatever comes above, it stays crossed.
-                    if (!spanCrosses(section - 1, total) && !spanCrosses(section, total)) {
-                        found += placeRest(layer + 1, total);
-                    }
+                    found += goOnAbove(section, layer, total);
                     placed[section] = total;
                 }
             }
             return found;
+        }
+
+        // An order that crosses already is given up here: whatever comes above, it stays crossed.
+        private int goOnAbove(int section, int layer, int total) {
+            boolean crosses = spanCrosses(section - 1, total) || spanCrosses(section, total);
+            return crosses ? 0 : placeRest(layer + 1, total);
         }
 
         private boolean isNextOfPile(int section, int total) {
