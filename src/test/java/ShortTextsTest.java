@@ -3,7 +3,7 @@ import java.util.List;
 import java.util.TreeSet;
 
 /**
- * Promises 41 to 44 for every short text: the grammars are derived rule by rule, as they stand in the document, and a
+ * Promises 41 to 44 for all short texts over a few signs: the grammars are derived rule by rule, as they stand in the document, and a
  * text can go on if some tail makes it one of the language. So nothing here is read from left to right, as the class
  * reads.
  */
@@ -164,7 +164,7 @@ public final class ShortTextsTest {
         return commands;
     }
 
-    /** Every beginning of a command, followed by every sign, alone and as the second command of a text. */
+    /** Beginnings of all kinds of commands before the signs 0 to 255, alone and as the second command of a text. */
     private static void commands() {
         for (String start : someStarts()) {
             for (char sign = 0; sign < 256; sign++) {
