@@ -3,9 +3,9 @@ import java.util.List;
 import java.util.TreeSet;
 
 /**
- * Promises 41 to 44 for all short texts over a few signs: the grammars are derived rule by rule, as they stand in the document, and a
- * text can go on if some tail makes it one of the language. So nothing here is read from left to right, as the class
- * reads.
+ * Promises 41 to 44 for all short texts over a few signs: the grammars are derived rule by rule, as they stand in the
+ * document, and a text can go on if some tail makes it one of the language. So nothing here is read from left to
+ * right, as the class reads.
  */
 public final class ShortTextsTest {
     private static final String SEARCH_SIGNS = "ab+-()i";
